@@ -584,6 +584,14 @@ public final class PromiseTest {
         check.due("too few words", 3, coder::read);
         check.same("too few", readingOf(coder, 3), "110");
         check.due("too few: differences", 2, coder::differences);
+        BlockCoder shorter = plannedOf("0000111122223333", 5, 2, 0);
+        shorter.cut(16);
+        shorter.feed(0x2102000000000000L, 4);
+        shorter.setPrices(20, 4);
+        shorter.plan();
+        shorter.write();
+        shorter.flip(1);
+        check.due("bits left over are no second block's", 4, shorter::read);
     }
 
     private void differences() {
