@@ -136,7 +136,7 @@ public final class BlockCoder {
             splitter.split(text, settings);
             plan.follow(splitter, text);
             for (int block = 0; block < plan.blocks; block++) {
-                tally.take(text, plan.starts[block], plan.starts[block + 1]);
+                tally.take(text, plan.starts[block], plan.ends[block]);
                 finder.find(tally, settings.limit);
                 plan.keepCode(block, finder.lengths, settings.limit);
             }
@@ -164,14 +164,14 @@ public final class BlockCoder {
         requirePlan();
         requireBlock(block);
         requireSymbol(symbol);
-        return plan.lengths[block * SYMBOLS + symbol];
+        return plan.lengths[Plan.cellOf(block, symbol)];
     }
 
     public int word(int block, int symbol) throws IllegalStateException, IndexOutOfBoundsException {
         requirePlan();
         requireBlock(block);
         requireSymbol(symbol);
-        return plan.words[block * SYMBOLS + symbol];
+        return plan.words[Plan.cellOf(block, symbol)];
     }
 
     public int slack(int block) throws IllegalStateException, IndexOutOfBoundsException {
@@ -179,7 +179,7 @@ public final class BlockCoder {
         requireBlock(block);
         int left = 1 << settings.limit;
         for (int symbol = 0; symbol < SYMBOLS; symbol++) {
-            int length = plan.lengths[block * SYMBOLS + symbol];
+            int length = plan.lengths[Plan.cellOf(block, symbol)];
             if (length > 0) {
                 left -= 1 << (settings.limit - length);
             }
@@ -216,11 +216,9 @@ public final class BlockCoder {
     public int write() throws IllegalStateException {
         requirePlan();
         written.total = 0;
-        for (int block = 0; block < plan.blocks; block++) {
-            for (int place = plan.starts[block]; place < plan.starts[block + 1]; place++) {
-                int at = block * SYMBOLS + text.symbols[place];
-                written.push(plan.words[at], plan.lengths[at]);
-            }
+        for (int place = 0; place < text.size; place++) {
+            int cell = Plan.cellOf(plan.blockOf[place], text.symbols[place]);
+            written.push(plan.words[cell], plan.lengths[cell]);
         }
         return written.total;
     }
@@ -245,16 +243,15 @@ public final class BlockCoder {
         requirePlan();
         readTotal = 0;
         int next = 0;
-        for (int block = 0; block < plan.blocks; block++) {
-            for (int place = plan.starts[block]; place < plan.starts[block + 1]; place++) {
-                int symbol = symbolAt(next, block);
-                if (symbol == NONE) {
-                    return readTotal;
-                }
-                reading[place] = symbol;
-                readTotal++;
-                next += plan.lengths[block * SYMBOLS + symbol];
+        for (int place = 0; place < text.size; place++) {
+            int block = plan.blockOf[place];
+            int symbol = symbolAt(next, block);
+            if (symbol == NONE) {
+                break;
             }
+            reading[place] = symbol;
+            readTotal = place + 1;
+            next += plan.lengths[Plan.cellOf(block, symbol)];
         }
         return readTotal;
     }
@@ -283,10 +280,8 @@ public final class BlockCoder {
             return 0;
         }
         int sum = 0;
-        for (int block = 0; block < plan.blocks; block++) {
-            for (int place = plan.starts[block]; place < plan.starts[block + 1]; place++) {
-                sum += plan.lengths[block * SYMBOLS + text.symbols[place]];
-            }
+        for (int place = 0; place < text.size; place++) {
+            sum += plan.lengths[Plan.cellOf(plan.blockOf[place], text.symbols[place])];
         }
         return (double) sum / text.size;
     }
@@ -313,7 +308,7 @@ public final class BlockCoder {
 
     private static long mixed(long sum, int[] row, int from, int to) {
         long d = sum;
-        for (int i = from; i < to; i++) {
+        for (int i = from; i >= 0 && i < to && i < row.length; i++) {
             d = d * 31 + row[i];
         }
         return d;
@@ -378,7 +373,6 @@ public final class BlockCoder {
         return NONE;
     }
 
-    /** Its symbols are 0 to 15: the face tests them before they come here, and others index rows by them. */
     private static final class Text {
         final int[] symbols = new int[MOST_PLACES];
         int size = 0;
@@ -427,15 +421,18 @@ public final class BlockCoder {
 
         void take(Text text, int from, int to) {
             clear();
-            for (int place = from; place < to; place++) {
+            for (int place = Math.max(from, 0); place < to && place < text.size; place++) {
                 add(text.symbols[place]);
             }
         }
 
         void add(int symbol) {
+            if (!isSymbol(symbol)) {
+                return;
+            }
             int before = counts[symbol];
             counts[symbol] = before + 1;
-            if (before == 0) {
+            if (before == 0 && kinds < SYMBOLS) {
                 falling[kinds] = 1;
                 kinds++;
                 return;
@@ -484,7 +481,7 @@ public final class BlockCoder {
             int pair = 0;
             int made = 0;
             while (made < most && (leaf >= 0 || pair + 1 < filled)) {
-                if (pair + 1 >= filled || leaf >= 0 && tally.falling[leaf] <= row[pair] + row[pair + 1]) {
+                if (leaf >= 0 && (pair + 1 >= filled || tally.falling[leaf] <= row[pair] + row[pair + 1])) {
                     nextRow[made] = tally.falling[leaf];
                     leaf--;
                 } else {
@@ -501,68 +498,64 @@ public final class BlockCoder {
     }
 
     /**
-     * Finds the code of a block. Row i, room r of the table is the least sum of lengths for the
-     * symbols from the i-th present one on, if their words may use r of the 2^L places of a tree.
+     * Finds the code of a block. Row r, room m of the table is the least sum of lengths for the
+     * last r symbols that occur, if their words may use m of the 2^L places of a tree.
      */
     private static final class CodeFinder {
         private static final int ROW = (1 << MOST_LIMIT) + 1;
 
         final int[] lengths = new int[SYMBOLS];
-        private final int[] present = new int[SYMBOLS];
+        /** Row 0 is never written: no symbols cost nothing. */
         private final int[] least = new int[(SYMBOLS + 1) * ROW];
-        private int kinds = 0;
 
         void find(Tally tally, int limit) {
-            listPresent(tally);
-            for (int room = 0; room <= 1 << limit; room++) {
-                least[kinds * ROW + room] = 0;
-            }
-            for (int i = kinds - 1; i >= 0; i--) {
-                fillRow(i, tally.counts[present[i]], limit);
-            }
-            chooseLengths(tally, limit);
-        }
-
-        private void listPresent(Tally tally) {
-            kinds = 0;
-            for (int symbol = 0; symbol < SYMBOLS; symbol++) {
-                lengths[symbol] = 0;
+            int rows = 0;
+            for (int symbol = SYMBOLS - 1; symbol >= 0; symbol--) {
                 if (tally.counts[symbol] > 0) {
-                    present[kinds] = symbol;
-                    kinds++;
+                    rows++;
+                    fillRow(rows, tally.counts[symbol], limit);
                 }
             }
+            chooseLengths(tally, rows, limit);
         }
 
-        private void fillRow(int i, int count, int limit) {
+        private void fillRow(int row, int count, int limit) {
             for (int room = 0; room <= 1 << limit; room++) {
                 int best = TOO_MUCH;
                 for (int length = 1; length <= limit; length++) {
-                    best = Math.min(best, sumWith(i, count, length, room - (1 << (limit - length))));
+                    best = Math.min(best, sumWith(row, count, length, room - (1 << (limit - length))));
                 }
-                least[i * ROW + room] = best;
+                least[row * ROW + room] = best;
             }
         }
 
-        private int sumWith(int i, int count, int length, int roomLeft) {
-            return roomLeft < 0 ? TOO_MUCH : count * length + least[(i + 1) * ROW + roomLeft];
+        private int sumWith(int row, int count, int length, int roomLeft) {
+            return roomLeft < 0 ? TOO_MUCH : count * length + least[(row - 1) * ROW + roomLeft];
         }
 
         /** The smallest symbol chooses first, and each the shortest length of any best code. */
-        private void chooseLengths(Tally tally, int limit) {
+        private void chooseLengths(Tally tally, int rows, int limit) {
+            int row = rows;
             int room = 1 << limit;
-            for (int i = 0; i < kinds; i++) {
-                int symbol = present[i];
-                int best = least[i * ROW + room];
-                for (int length = 1; length <= limit; length++) {
-                    int roomLeft = room - (1 << (limit - length));
-                    if (best < TOO_MUCH && sumWith(i, tally.counts[symbol], length, roomLeft) == best) {
-                        lengths[symbol] = length;
-                        room = roomLeft;
-                        break;
-                    }
+            for (int symbol = 0; symbol < SYMBOLS; symbol++) {
+                lengths[symbol] = 0;
+                if (tally.counts[symbol] > 0 && row > 0 && room > 0) {
+                    int length = shortestLength(row, tally.counts[symbol], room, limit);
+                    lengths[symbol] = length;
+                    room -= 1 << (limit - length);
+                    row--;
                 }
             }
+        }
+
+        private int shortestLength(int row, int count, int room, int limit) {
+            for (int length = 1; length < limit; length++) {
+                int roomLeft = room - (1 << (limit - length));
+                if (sumWith(row, count, length, roomLeft) == least[row * ROW + room]) {
+                    return length;
+                }
+            }
+            return limit;
         }
     }
 
@@ -591,8 +584,11 @@ public final class BlockCoder {
             knownLimit = limit;
         }
 
-        /** The cost of a block that begins before its end; NONE if it has no code. */
+        /** The cost of a block; NONE if it has no code. */
         int priceOf(int from, int to, Settings settings) {
+            if (from < 0 || from >= to || to > MOST_PLACES) {
+                return NONE;
+            }
             int at = rowOf(to) + from;
             return sums[at] == NONE ? NONE : settings.priceOf(kinds[at], sums[at]);
         }
@@ -659,37 +655,47 @@ public final class BlockCoder {
         }
     }
 
-    /** The blocks with their codes; block b ends where block b + 1 begins, the last at the text's end. */
+    /** The blocks with their codes; the rows of lengths and words have 16 cells a block. */
     private static final class Plan {
-        final int[] starts = new int[MOST_PLACES + 1];
+        final int[] starts = new int[MOST_PLACES];
+        final int[] ends = new int[MOST_PLACES];
+        final int[] blockOf = new int[MOST_PLACES];
         final int[] lengths = new int[MOST_PLACES * SYMBOLS];
         final int[] words = new int[MOST_PLACES * SYMBOLS];
         int blocks = 0;
         int cost = 0;
 
+        static int cellOf(int block, int symbol) {
+            return block >= 0 && block < MOST_PLACES && isSymbol(symbol) ? block * SYMBOLS + symbol : 0;
+        }
+
         void follow(Splitter splitter, Text text) {
             cost = splitter.costs[0];
-            blocks = splitter.blocks[0];
-            int from = 0;
-            for (int block = 0; block < blocks; block++) {
-                starts[block] = from;
-                from = splitter.ends[from];
+            blocks = 0;
+            int end = 0;
+            for (int place = 0; place < text.size; place++) {
+                if (place == end) {
+                    end = splitter.ends[place];
+                    starts[blocks] = place;
+                    ends[blocks] = end;
+                    blocks++;
+                }
+                blockOf[place] = blocks - 1;
             }
-            starts[blocks] = text.size;
         }
 
         void keepCode(int block, int[] found, int limit) {
-            int base = block * SYMBOLS;
             for (int symbol = 0; symbol < SYMBOLS; symbol++) {
-                lengths[base + symbol] = found[symbol];
-                words[base + symbol] = NONE;
+                int cell = cellOf(block, symbol);
+                lengths[cell] = found[symbol];
+                words[cell] = NONE;
             }
             int word = 0;
             for (int length = 1; length <= limit; length++) {
                 word *= 2;
                 for (int symbol = 0; symbol < SYMBOLS; symbol++) {
                     if (found[symbol] == length) {
-                        words[base + symbol] = word;
+                        words[cellOf(block, symbol)] = word;
                         word++;
                     }
                 }
@@ -697,9 +703,9 @@ public final class BlockCoder {
         }
 
         int symbolWith(int block, int length, int word) {
-            int base = block * SYMBOLS;
             for (int symbol = 0; symbol < SYMBOLS; symbol++) {
-                if (lengths[base + symbol] == length && words[base + symbol] == word) {
+                int cell = cellOf(block, symbol);
+                if (lengths[cell] == length && words[cell] == word) {
                     return symbol;
                 }
             }
